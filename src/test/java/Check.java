@@ -1,0 +1,98 @@
+import java.util.ArrayList;
+import java.util.List;
+import java.util.function.Consumer;
+import java.util.function.Supplier;
+
+/** What all tests of the project share: the comparing of answers, and probes of whole districts. */
+final class Check {
+  private static int wrong = 0;
+  private static int compared = 0;
+
+  private Check() {
+  }
+
+  static void due(String what, long got, long want) {
+    compared++;
+    if (got != want) {
+      wrong++;
+      System.out.println(what + " answered " + got + ", due is " + want);
+    }
+  }
+
+  static void holds(String what, boolean does) {
+    due(what, does ? 1 : 0, 1);
+  }
+
+  /** Ends the test with exit code 1 if an answer was wrong, or if there was none at all. */
+  static void finish() {
+    System.out.println(compared + " answers compared, " + wrong + " wrong");
+    if (wrong != 0 || compared == 0) System.exit(1);
+  }
+
+  static void write(IrrigationDistrict district, String text) {
+    for (char letter : text.toCharArray()) {
+      district.append(letter);
+    }
+  }
+
+  /** That the calls leave no trace in a district that is made twice, once with them and once without. */
+  static void changesNothing(String what, Supplier<IrrigationDistrict> maker, Consumer<IrrigationDistrict> calls) {
+    IrrigationDistrict touched = maker.get();
+    calls.accept(touched);
+    List<Long> without = probe(maker.get());
+    List<Long> with = probe(touched);
+    due(what + ": values of the probe", with.size(), without.size());
+    for (int i = 0; i < Math.min(with.size(), without.size()); i++) {
+      due(what + ": value " + i + " of the probe", with.get(i), without.get(i));
+    }
+  }
+
+  /** Everything that a district can be asked, also by setting it; the district is used up by this. */
+  static List<Long> probe(IrrigationDistrict d) {
+    List<Long> seen = new ArrayList<>();
+    seen.add((long) d.faultPosition());
+    probePresent(d, seen);
+    probeSettings(d, seen);
+    seen.add((long) d.clearText());
+    for (int slot = 0; slot < 2; slot++) {
+      seen.add((long) d.restore(slot));
+      probePresent(d, seen);
+      probeSettings(d, seen);
+    }
+    return seen;
+  }
+
+  private static void probePresent(IrrigationDistrict d, List<Long> seen) {
+    seen.add(d.checksum());
+    for (int user = 0; user < d.users(); user++) {
+      seen.add((long) d.userByAge(user));
+      seen.add((long) d.limit(user));
+      seen.add((long) d.leastSupply(user));
+      seen.add((long) d.willMiss(user, 30));
+      seen.add((long) d.hoursToFull(user));
+    }
+    for (int ditch = 0; ditch < d.ditches(); ditch++) {
+      seen.add((long) d.usefulGate(ditch));
+    }
+  }
+
+  private static void probeSettings(IrrigationDistrict d, List<Long> seen) {
+    seen.add((long) d.advance(26));
+    seen.add(d.checksum());
+    seen.add((long) d.setRule(IrrigationDistrict.BY_AGE));
+    seen.add((long) d.setFutile(0));
+    for (int hour = 0; hour < 24; hour++) {
+      seen.add((long) d.setSupply(hour, hour + 1, 200));
+    }
+    for (int user = 0; user < d.users(); user++) {
+      seen.add((long) d.setTurn(user, 0));
+      seen.add((long) d.setField(user, 60, 0, 24));
+      seen.add((long) d.asks(user));
+      seen.add((long) d.setPond(user, 500, 0));
+    }
+    for (int ditch = 0; ditch < d.ditches(); ditch++) {
+      seen.add((long) d.setDitch(ditch, 200, 50));
+    }
+    seen.add(d.checksum());
+  }
+}
