@@ -627,8 +627,10 @@ public final class IrrigationDistrict {
     final int[] passed = new int[MAX_DITCHES];
     /** The greatest inflow that each ditch could have while all other amounts stay. */
     private final int[] most = new int[MAX_DITCHES];
+    private int supply;
 
     void distribute(State state) {
+      supply = state.supplyNow();
       int inTurn = state.userInTurn();
       for (int i = 0; i < state.userCount; i++) {
         asked[i] = state.unitsAsked(i, inTurn);
@@ -676,15 +678,17 @@ public final class IrrigationDistrict {
     private void giveGreatestShares(State state) {
       int percent = 0;
       for (int step = 64; step > 0; step /= 2) {
-        if (percent + step <= 100 && areSharesPossible(state, percent + step)) percent += step;
+        if (percent + step <= 100) {
+          giveShares(state, percent + step);
+          spread(state);
+          if (isPossible(state)) percent += step;
+        }
       }
       giveShares(state, percent);
     }
 
-    private boolean areSharesPossible(State state, int percent) {
-      giveShares(state, percent);
-      spread(state);
-      if (into[0] > state.supplyNow()) return false;
+    private boolean isPossible(State state) {
+      if (into[0] > supply) return false;
       for (int i = 0; i < state.ditchCount; i++) {
         if (into[i] > state.ditch[i].gate) return false;
       }
@@ -720,7 +724,7 @@ public final class IrrigationDistrict {
     }
 
     private int mostFor(State state, int user) {
-      most[0] = Math.min(state.ditch[0].gate, state.supplyNow());
+      most[0] = Math.min(state.ditch[0].gate, supply);
       for (int i = 1; i < state.ditchCount; i++) {
         int parent = state.ditch[i].parent;
         int left = state.ditch[parent].passedOf(most[parent]) - (passed[parent] - into[i]);
@@ -775,6 +779,7 @@ public final class IrrigationDistrict {
           break;
         default:
           fault = at;
+          break;
       }
     }
 
@@ -823,7 +828,7 @@ public final class IrrigationDistrict {
     }
 
     /** A sign that stands for the end of the text, too, since no order has it. */
-    private char letterHere() {
+    private int letterHere() {
       return at < length ? letters[at] : 0;
     }
 

@@ -15,6 +15,7 @@ final class DisputesTest {
     whoIsYounger();
     complaint();
     futileBounds();
+    futileBoundOfMuch();
     settle();
     settleShutsAtOnce();
     settleOrder();
@@ -156,6 +157,23 @@ final class DisputesTest {
     Check.due("30: f is 0", d.complaint(0, 1), UPHELD);
     d.setFutile(100);
     Check.due("30: f is 100", d.complaint(0, 1), FUTILE);
+  }
+
+  /** The gain is 20 of 59 units: 2000 is less than 34 times 59 by 6. */
+  private static void futileBoundOfMuch() {
+    IrrigationDistrict d = new IrrigationDistrict();
+    d.setDitch(0, 200, 0);
+    addUsers(d, 1, 60);
+    d.addUser(0, 1950, 59);
+    d.setField(1, 59, 0, 24);
+    d.setTurn(1, 1);
+    d.setRule(1);
+    d.setSupply(0, 24, 99);
+    Check.due("29: the gain", d.gain(0, 1), 20);
+    d.setFutile(34);
+    Check.due("30: a little too little", d.complaint(0, 1), FUTILE);
+    d.setFutile(33);
+    Check.due("30: enough", d.complaint(0, 1), UPHELD);
   }
 
   private static void settle() {

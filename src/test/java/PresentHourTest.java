@@ -14,6 +14,7 @@ final class PresentHourTest {
     getsByAge();
     getsByTurns();
     getsInProportion();
+    proportionByGateOfDitch0();
     inflowAndLoss();
     turn();
     limit();
@@ -161,6 +162,23 @@ final class PresentHourTest {
     Check.due("16: k by the supply", d.gets(0) * 1000000 + d.gets(1) * 10000 + d.gets(2) * 100 + d.gets(3), 12080109);
   }
 
+  private static void proportionByGateOfDitch0() {
+    IrrigationDistrict d = new IrrigationDistrict();
+    d.setDitch(0, 46, 0);
+    d.setSupply(0, 24, 200);
+    addUser(d, 0, 1900, 50, 50);
+    addUser(d, 0, 1800, 50, 50);
+    d.setRule(2);
+    Check.due("16: by the gate of ditch 0", d.gets(0), 23);
+    d.addUser(0, 1950, 60);
+    d.setField(2, 60, 0, 24);
+    d.setDitch(0, 43, 0);
+    // 27 % are 13, 13 and 16, of which 28 % are more (14, 14 and 16); one is left for the oldest.
+    Check.due("16: an odd k", d.gets(2), 16);
+    Check.due("16: an odd k, oldest", d.gets(1), 14);
+    Check.due("16: an odd k, next", d.gets(0), 13);
+  }
+
   private static void inflowAndLoss() {
     IrrigationDistrict d = new IrrigationDistrict();
     d.setDitch(0, 100, 3);
@@ -182,6 +200,11 @@ final class PresentHourTest {
     // Ditch 1 passes on 26: 29, of which 2.9, so 3, are lost. 28 pass on only 25.
     Check.due("17: smallest", d.inflow(1), 29);
     Check.due("18: rounded up", d.loses(1), 3);
+    d.setField(0, 1, 0, 24);
+    d.setDitch(2, 60, 1);
+    // Of one unit all is lost with 1 %, of two one.
+    Check.due("17: one unit", d.inflow(2), 2);
+    Check.due("18: one unit", d.loses(2), 1);
     Check.due("17: no such ditch", d.inflow(4), BAD_INDEX);
     Check.due("17: ditch -1", d.inflow(-1), BAD_INDEX);
     Check.due("18: no such ditch", d.loses(4), BAD_INDEX);
@@ -238,6 +261,15 @@ final class PresentHourTest {
     Check.due("20: gets all, which is nothing", d.limit(1), NOT_POSSIBLE);
     d.setField(0, 30, 0, 24);
     Check.due("20: gets all", d.limit(0), NOT_POSSIBLE);
+    IrrigationDistrict chain = new IrrigationDistrict();
+    for (int ditch = 1; ditch < 10; ditch++) {
+      chain.addDitch(ditch - 1, 60, 0);
+    }
+    addUser(chain, 9, 1900, 60, 60);
+    chain.setDitch(0, 50, 0);
+    Check.due("20: a long way", chain.limit(0), 0);
+    chain.setDitch(5, 50, 0);
+    Check.due("20: half of the way", chain.limit(0), 5);
     Check.due("20: no such user", d.limit(2), BAD_INDEX);
     Check.due("20: user -1", d.limit(-1), BAD_INDEX);
   }

@@ -116,16 +116,32 @@ final class SlotsTest {
       Check.due("2: added", d.addDitch(0, 99, 9), 2);
       return d;
     }, d -> {
-      d.setField(3, 9, 0, 24);
-      d.setPond(3, 99, 9);
-      d.setTurn(3, 9);
-      d.advance(9);
+      useUser3(d);
       d.restore(0);
       Check.due("38: gone", d.users() * 10 + d.ditches(), 32);
       Check.due("13: gone", d.userByAge(3), BAD_INDEX);
       d.addUser(0, 1999, 9);
       d.addDitch(0, 99, 9);
     });
+  }
+
+  /** Lets it miss water, have a content, and be shut off. */
+  private static void useUser3(IrrigationDistrict d) {
+    d.setField(3, 30, 0, 24);
+    d.advance(9);
+    Check.holds("26: something missed", d.missed(3) > 0);
+    d.setField(3, 0, 0, 24);
+    d.setPond(3, 99, 2);
+    d.setSupply(0, 24, 20);
+    d.setTurn(0, 0);
+    d.setTurn(2, 0);
+    d.setTurn(3, 9);
+    d.setRule(1);
+    d.advance(1);
+    d.setFutile(0);
+    d.settle();
+    Check.due("32: shut off", d.isShut(3), 1);
+    Check.holds("25: a content", d.pond(3) > 0);
   }
 
   private static void slotsAndTextStay() {

@@ -11,6 +11,7 @@ final class TimeTest {
     advance();
     longAdvance();
     account();
+    accountOfDitch0();
     pond();
     missed();
     willMiss();
@@ -76,6 +77,14 @@ final class TimeTest {
     Check.due("24: extreme", d.account(Integer.MIN_VALUE), BAD_VALUE);
     Check.due("24: cut ponds", d.setPond(0, 0, 0), 0);
     checkAccount(d, new int[] {120, 10, 7, 113, 79, 8, 21});
+  }
+
+  private static void accountOfDitch0() {
+    IrrigationDistrict d = withUser(60, 30, 0, 24);
+    d.setDitch(0, 100, 10);
+    d.advance(2);
+    // 30 units need 34, and the loss is 4 (3.4).
+    checkAccount(d, new int[] {68, 132, 8, 60, 60, 0, 0});
   }
 
   private static void checkAccount(IrrigationDistrict d, int[] due) {
