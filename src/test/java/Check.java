@@ -2,6 +2,7 @@ import java.util.ArrayList;
 import java.util.List;
 import java.util.function.Consumer;
 import java.util.function.Supplier;
+import java.util.function.ToIntFunction;
 
 /** What all tests of the project share: the comparing of answers, and probes of whole districts. */
 final class Check {
@@ -39,24 +40,38 @@ final class Check {
   static void changesNothing(String what, Supplier<IrrigationDistrict> maker, Consumer<IrrigationDistrict> calls) {
     IrrigationDistrict touched = maker.get();
     calls.accept(touched);
-    List<Long> without = probe(maker.get());
-    List<Long> with = probe(touched);
+    sameProbes(what, probe(touched), probe(maker.get()));
+  }
+
+  /** That the call answers this error and leaves no trace. */
+  static void refused(String what, Supplier<IrrigationDistrict> maker, ToIntFunction<IrrigationDistrict> call, int error) {
+    changesNothing(what, maker, d -> due(what, call.applyAsInt(d), error));
+  }
+
+  private static void sameProbes(String what, List<Long> with, List<Long> without) {
     due(what + ": values of the probe", with.size(), without.size());
     for (int i = 0; i < Math.min(with.size(), without.size()); i++) {
       due(what + ": value " + i + " of the probe", with.get(i), without.get(i));
     }
   }
 
-  /** Everything that a district can be asked, also by setting it; the district is used up by this. */
+  /**
+   * Everything that a district can be asked, also by setting it; the district is used up by this.
+   * No probe makes more than 370 calls, so that those before it may be 140.
+   */
   static List<Long> probe(IrrigationDistrict d) {
     List<Long> seen = new ArrayList<>();
     seen.add((long) d.faultPosition());
     probePresent(d, seen);
     probeSettings(d, seen);
+    seen.add((long) d.read());
+    seen.add(d.checksum());
     seen.add((long) d.clearText());
     for (int slot = 0; slot < 2; slot++) {
-      seen.add((long) d.restore(slot));
-      probePresent(d, seen);
+      int time = d.restore(slot);
+      seen.add((long) time);
+      if (time < 0) continue;
+      seen.add(d.checksum());
       probeSettings(d, seen);
     }
     return seen;
@@ -64,14 +79,16 @@ final class Check {
 
   private static void probePresent(IrrigationDistrict d, List<Long> seen) {
     seen.add(d.checksum());
-    for (int user = 0; user < d.users(); user++) {
+    int users = d.users();
+    for (int user = 0; user < users; user++) {
       seen.add((long) d.userByAge(user));
       seen.add((long) d.limit(user));
       seen.add((long) d.leastSupply(user));
       seen.add((long) d.willMiss(user, 30));
       seen.add((long) d.hoursToFull(user));
     }
-    for (int ditch = 0; ditch < d.ditches(); ditch++) {
+    int ditches = d.ditches();
+    for (int ditch = 0; ditch < ditches; ditch++) {
       seen.add((long) d.usefulGate(ditch));
     }
   }
@@ -84,13 +101,15 @@ final class Check {
     for (int hour = 0; hour < 24; hour++) {
       seen.add((long) d.setSupply(hour, hour + 1, 200));
     }
-    for (int user = 0; user < d.users(); user++) {
+    int users = d.users();
+    for (int user = 0; user < users; user++) {
       seen.add((long) d.setTurn(user, 0));
       seen.add((long) d.setField(user, 60, 0, 24));
       seen.add((long) d.asks(user));
       seen.add((long) d.setPond(user, 500, 0));
     }
-    for (int ditch = 0; ditch < d.ditches(); ditch++) {
+    int ditches = d.ditches();
+    for (int ditch = 0; ditch < ditches; ditch++) {
       seen.add((long) d.setDitch(ditch, 200, 50));
     }
     seen.add(d.checksum());

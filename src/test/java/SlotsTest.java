@@ -172,12 +172,15 @@ final class SlotsTest {
   }
 
   private static void checksumOfAll() {
-    IrrigationDistrict d = rich();
-    for (int hour = 0; hour < 30; hour++) {
-      Check.due("39: hour " + hour, d.checksum(), told(d));
-      d.advance(1);
-      d.setRule(hour % 3);
-      if (hour % 4 == 0) d.settle();
+    for (int day = 0; day < 3; day++) {
+      IrrigationDistrict d = rich();
+      if (day > 0) d.advance(16 * day);
+      for (int hour = 0; hour < 9; hour++) {
+        Check.due("39: day " + day + ", hour " + hour, d.checksum(), told(d));
+        d.advance(1);
+        d.setRule(hour % 3);
+        if (hour % 4 == 0) d.settle();
+      }
     }
   }
 
