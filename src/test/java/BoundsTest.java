@@ -5,7 +5,7 @@ import java.util.function.Supplier;
 /**
  * Errors: for each parameter of each call the first and the last value that is allowed, the values next to them
  * that are not, and the greatest and the least int; the order of the checks; and that each refused call, by
- * itself, changes nothing.
+ * itself, changes nothing, as questions do not.
  */
 final class BoundsTest {
   private static final int BAD_INDEX = IrrigationDistrict.BAD_INDEX;
@@ -34,20 +34,19 @@ final class BoundsTest {
     }
   }
 
-  private final List<Kind> kinds = new ArrayList<>();
-
   private BoundsTest() {
   }
 
   public static void main(String[] args) {
-    BoundsTest test = new BoundsTest();
-    test.setKinds();
-    test.askKinds();
-    for (Kind kind : test.kinds) {
+    List<Kind> kinds = new ArrayList<>(actions());
+    kinds.addAll(questions());
+    for (Kind kind : kinds) {
       ends(kind);
       oneWrong(kind);
       twoWrong(kind);
     }
+    districtsAreAsTold();
+    questionsChangeNothing();
     hoursOfFields();
     hoursOfSupply();
     emptyDistrict();
@@ -75,46 +74,97 @@ final class BoundsTest {
     return new Parameter(BAD_VALUE, least, greatest, (least + greatest) / 2);
   }
 
-  private void kind(String name, Call call, Parameter... parameters) {
-    kinds.add(new Kind(name, call, parameters));
+  private static Kind kind(String name, Call call, Parameter... parameters) {
+    return new Kind(name, call, parameters);
   }
 
-  private void setKinds() {
-    kind("2: addDitch", (d, v) -> d.addDitch(v[0], v[1], v[2]), ditch(), value(1, 200), value(0, 50));
-    kind("3: setDitch", (d, v) -> d.setDitch(v[0], v[1], v[2]), ditch(), value(1, 200), value(0, 50));
-    kind("4: addUser", (d, v) -> d.addUser(v[0], v[1], v[2]), ditch(), value(1800, 2099), value(0, 60));
-    kind("5: setField to 24", (d, v) -> d.setField(v[0], v[1], v[2], 24), user(), value(0, 60), value(0, 23));
-    kind("5: setField from 3", (d, v) -> d.setField(v[0], v[1], 3, v[2]), user(), value(0, 60), value(4, 24));
-    kind("6: setPond", (d, v) -> d.setPond(v[0], v[1], v[2]), user(), value(0, 500), value(0, 20));
-    kind("7: setTurn", (d, v) -> d.setTurn(v[0], v[1]), user(), value(0, 24));
-    kind("8: setSupply to 24", (d, v) -> d.setSupply(v[0], 24, v[1]), value(0, 23), value(0, 200));
-    kind("8: setSupply from 3", (d, v) -> d.setSupply(3, v[0], v[1]), value(4, 24), value(0, 200));
-    kind("9: setRule", (d, v) -> d.setRule(v[0]), value(0, 2));
-    kind("10: setFutile", (d, v) -> d.setFutile(v[0]), value(0, 100));
-    kind("23: advance", (d, v) -> d.advance(v[0]), value(1, 48));
-    kind("33: append", (d, v) -> d.append(v[0]), value(0, 127));
-    kind("37: save", (d, v) -> d.save(v[0]), index(0, 1));
+  private static List<Kind> actions() {
+    return List.of(
+        kind("2: addDitch", (d, v) -> d.addDitch(v[0], v[1], v[2]), ditch(), value(1, 200), value(0, 50)),
+        kind("3: setDitch", (d, v) -> d.setDitch(v[0], v[1], v[2]), ditch(), value(1, 200), value(0, 50)),
+        kind("4: addUser", (d, v) -> d.addUser(v[0], v[1], v[2]), ditch(), value(1800, 2099), value(0, 60)),
+        kind("5: setField to 24", (d, v) -> d.setField(v[0], v[1], v[2], 24), user(), value(0, 60), value(0, 23)),
+        kind("5: setField from 3", (d, v) -> d.setField(v[0], v[1], 3, v[2]), user(), value(0, 60), value(4, 24)),
+        kind("6: setPond", (d, v) -> d.setPond(v[0], v[1], v[2]), user(), value(0, 500), value(0, 20)),
+        kind("7: setTurn", (d, v) -> d.setTurn(v[0], v[1]), user(), value(0, 24)),
+        kind("8: setSupply to 24", (d, v) -> d.setSupply(v[0], 24, v[1]), value(0, 23), value(0, 200)),
+        kind("8: setSupply from 3", (d, v) -> d.setSupply(3, v[0], v[1]), value(4, 24), value(0, 200)),
+        kind("9: setRule", (d, v) -> d.setRule(v[0]), value(0, 2)),
+        kind("10: setFutile", (d, v) -> d.setFutile(v[0]), value(0, 100)),
+        kind("23: advance", (d, v) -> d.advance(v[0]), value(1, 48)),
+        kind("33: append", (d, v) -> d.append(v[0]), value(0, 127)),
+        kind("37: save", (d, v) -> d.save(v[0]), index(0, 1)),
+        kind("38: restore", (d, v) -> d.restore(v[0]), index(0, 1)));
   }
 
-  private void askKinds() {
-    kind("13: userByAge", (d, v) -> d.userByAge(v[0]), user());
-    kind("15: asks", (d, v) -> d.asks(v[0]), user());
-    kind("16: gets", (d, v) -> d.gets(v[0]), user());
-    kind("17: inflow", (d, v) -> d.inflow(v[0]), ditch());
-    kind("18: loses", (d, v) -> d.loses(v[0]), ditch());
-    kind("20: limit", (d, v) -> d.limit(v[0]), user());
-    kind("21: leastSupply", (d, v) -> d.leastSupply(v[0]), user());
-    kind("22: usefulGate", (d, v) -> d.usefulGate(v[0]), ditch());
-    kind("24: account", (d, v) -> d.account(v[0]), value(0, 6));
-    kind("25: pond", (d, v) -> d.pond(v[0]), user());
-    kind("26: missed", (d, v) -> d.missed(v[0]), user());
-    kind("27: willMiss", (d, v) -> d.willMiss(v[0], v[1]), user(), value(1, 48));
-    kind("28: hoursToFull", (d, v) -> d.hoursToFull(v[0]), user());
-    // The middle user, by age as by number, is neither the oldest nor the youngest one.
-    kind("29: gain", (d, v) -> d.gain(v[0], v[1]), user(), user());
-    kind("30: complaint", (d, v) -> d.complaint(v[0], v[1]), user(), user());
-    kind("32: isShut", (d, v) -> d.isShut(v[0]), user());
-    kind("38: restore", (d, v) -> d.restore(v[0]), index(0, 1));
+  private static List<Kind> questions() {
+    return List.of(
+        kind("13: userByAge", (d, v) -> d.userByAge(v[0]), user()),
+        kind("15: asks", (d, v) -> d.asks(v[0]), user()),
+        kind("16: gets", (d, v) -> d.gets(v[0]), user()),
+        kind("17: inflow", (d, v) -> d.inflow(v[0]), ditch()),
+        kind("18: loses", (d, v) -> d.loses(v[0]), ditch()),
+        kind("20: limit", (d, v) -> d.limit(v[0]), user()),
+        kind("21: leastSupply", (d, v) -> d.leastSupply(v[0]), user()),
+        kind("22: usefulGate", (d, v) -> d.usefulGate(v[0]), ditch()),
+        kind("24: account", (d, v) -> d.account(v[0]), value(0, 6)),
+        kind("25: pond", (d, v) -> d.pond(v[0]), user()),
+        kind("26: missed", (d, v) -> d.missed(v[0]), user()),
+        kind("27: willMiss", (d, v) -> d.willMiss(v[0], v[1]), user(), value(1, 48)),
+        kind("28: hoursToFull", (d, v) -> d.hoursToFull(v[0]), user()),
+        kind("29: gain", (d, v) -> d.gain(v[0], v[1]), user(), user()),
+        kind("30: complaint", (d, v) -> d.complaint(v[0], v[1]), user(), user()),
+        kind("32: isShut", (d, v) -> d.isShut(v[0]), user()));
+  }
+
+  /** What this test and others need of the districts that Districts makes. */
+  private static void districtsAreAsTold() {
+    IrrigationDistrict rich = Districts.rich();
+    Check.due("rich: ditches and users", rich.ditches() * 100 + rich.users(), 405);
+    Check.due("rich: the users 0 and 3 are shut off", rich.isShut(0) * 10 + rich.isShut(3), 11);
+    Check.due("rich: and nobody else", rich.isShut(1) + rich.isShut(2) + rich.isShut(4), 0);
+    Check.holds("rich: there is water in a pond", rich.pond(2) > 0);
+    Check.due("rich: slot 0", rich.restore(0), 2);
+    Check.due("rich: slot 1", rich.restore(1), NOT_POSSIBLE);
+    Check.due("rich: text", rich.read(), 2);
+    IrrigationDistrict full = Districts.full();
+    Check.due("full: ditches and users", full.ditches() * 100 + full.users(), 1012);
+    Check.due("full: text", full.read(), 1);
+    Check.due("full: slots", full.restore(0) * 10 + full.restore(1), 7);
+    IrrigationDistrict fullText = Districts.fullText();
+    Check.due("full text: twenty orders", fullText.read(), 20);
+    Check.due("full text: 100 bytes", fullText.clearText(), 100);
+  }
+
+  /** Each question, with all users and ditches that there are in the one or the other district. */
+  private static void questionsChangeNothing() {
+    for (Kind kind : questions()) {
+      Check.changesNothing(kind.name + " of a rich district", Districts::rich, d -> askAll(kind, d));
+      Check.changesNothing(kind.name + " of a full district", Districts::full, d -> askAll(kind, d));
+    }
+    Check.changesNothing("all others", Districts::rich, d -> {
+      Check.due("11: ditches", d.ditches(), 4);
+      Check.due("12: users", d.users(), 5);
+      Check.due("14: time", d.time(), 5);
+      Check.due("19: turn", d.turn(), NONE);
+      Check.due("35: fault position", d.faultPosition(), NONE);
+      Check.due("39: checksum", d.checksum(), Districts.rich().checksum());
+    });
+  }
+
+  private static void askAll(Kind kind, IrrigationDistrict d) {
+    int[] values = kind.middles();
+    for (int first = 0; first < 12; first++) {
+      values[0] = first;
+      if (values.length == 1) {
+        kind.call.on(d, values);
+        continue;
+      }
+      for (int second = first % 3; second < 12; second += 3) {
+        values[1] = second;
+        kind.call.on(d, values);
+      }
+    }
   }
 
   private static String told(Kind kind, int[] values) {
@@ -272,7 +322,7 @@ final class BoundsTest {
     }
   }
 
-  /** "The call is not possible now". By age the users of Districts.rich are 4, 1, 2, 0, 3; user 3 is shut off. */
+  /** "The call is not possible now". By age the users of Districts.rich are 4, 1, 2, 0, 3; 0 and 3 are shut off. */
   private static void notPossible() {
     int[] byAge = {4, 1, 2, 0, 3};
     Supplier<IrrigationDistrict> rich = Districts::rich;

@@ -38,9 +38,12 @@ final class Check {
 
   /** That the calls leave no trace in a district that is made twice, once with them and once without. */
   static void changesNothing(String what, Supplier<IrrigationDistrict> maker, Consumer<IrrigationDistrict> calls) {
-    IrrigationDistrict touched = maker.get();
-    calls.accept(touched);
-    sameProbes(what, probe(touched), probe(maker.get()));
+    IrrigationDistrict asked = maker.get();
+    IrrigationDistrict set = maker.get();
+    calls.accept(asked);
+    calls.accept(set);
+    sameValues(what + ", asked", answers(asked), answers(maker.get()));
+    sameValues(what + ", set", settings(set), settings(maker.get()));
   }
 
   /** That the call answers this error and leaves no trace. */
@@ -48,31 +51,35 @@ final class Check {
     changesNothing(what, maker, d -> due(what, call.applyAsInt(d), error));
   }
 
-  private static void sameProbes(String what, List<Long> with, List<Long> without) {
-    due(what + ": values of the probe", with.size(), without.size());
+  private static void sameValues(String what, List<Long> with, List<Long> without) {
+    due(what + ": number of values", with.size(), without.size());
     for (int i = 0; i < Math.min(with.size(), without.size()); i++) {
-      due(what + ": value " + i + " of the probe", with.get(i), without.get(i));
+      due(what + ": value " + i, with.get(i), without.get(i));
     }
   }
 
-  /**
-   * Everything that a district can be asked, also by setting it; the district is used up by this.
-   * No probe makes more than 370 calls, so that those before it may be 140.
-   */
-  static List<Long> probe(IrrigationDistrict d) {
+  /** What a district answers to questions. It makes some 80 calls. */
+  private static List<Long> answers(IrrigationDistrict d) {
     List<Long> seen = new ArrayList<>();
     seen.add((long) d.faultPosition());
     probePresent(d, seen);
-    probeSettings(d, seen);
     seen.add((long) d.read());
     seen.add(d.checksum());
+    return seen;
+  }
+
+  /**
+   * What a district has been set to, which is asked of one that has been asked nothing else before, since a
+   * question that changes something would hide itself. It makes some 280 calls.
+   */
+  private static List<Long> settings(IrrigationDistrict d) {
+    List<Long> seen = new ArrayList<>();
+    probeSettings(d, seen);
     seen.add((long) d.clearText());
     for (int slot = 0; slot < 2; slot++) {
       int time = d.restore(slot);
       seen.add((long) time);
-      if (time < 0) continue;
-      seen.add(d.checksum());
-      probeSettings(d, seen);
+      if (time >= 0) probeSettings(d, seen);
     }
     return seen;
   }

@@ -59,21 +59,24 @@ final class DisputeSentencesTest {
 
   /** "A user may complain of a younger one": of no older one, and not of itself. */
   private static void ofAYoungerOne() {
-    IrrigationDistrict d = new IrrigationDistrict();
-    int[] years = {2099, 1800, 2099, 1800};
-    for (int year : years) {
-      addUser(d, 0, year, 60);
-    }
     int[] byAge = {1, 3, 0, 2};
     for (int i = 0; i < 4; i++) {
       for (int j = 0; j < 4; j++) {
-        int gain = d.gain(byAge[i], byAge[j]);
-        int complaint = d.complaint(byAge[i], byAge[j]);
         // By age 60 and 40 units are given; no younger one takes any of them away.
+        int gain = ofSameYears().gain(byAge[i], byAge[j]);
         Check.due("29: " + i + " of " + j, gain, i < j ? 0 : NOT_POSSIBLE);
+        int complaint = ofSameYears().complaint(byAge[i], byAge[j]);
         Check.due("30: " + i + " of " + j, complaint, i >= j ? NOT_POSSIBLE : i == 0 || j > 1 ? UNFOUNDED : FUTILE);
       }
     }
+  }
+
+  private static IrrigationDistrict ofSameYears() {
+    IrrigationDistrict d = new IrrigationDistrict();
+    for (int year : new int[] {2099, 1800, 2099, 1800}) {
+      addUser(d, 0, year, 60);
+    }
+    return d;
   }
 
   /** "by how much more the older one would get in this hour if the younger one asked for nothing". */

@@ -482,8 +482,11 @@ final class DistributionSentencesTest {
     for (int what : new int[] {0, 2, 3, 6}) {
       Check.due("24: account " + what, d.account(what), before[what] + more[what]);
     }
-    // From the time 5 to the time 35: the hours 5 to 8 twice, and 3 and 4 once, have 60; the other 20 have 100.
-    Check.due("24: all of the supply", d.account(0) + d.account(1) - before[0] - before[1], 10 * 60 + 20 * 100);
+    int supply = 0;
+    for (int time = 5; time < 35; time++) {
+      supply += Districts.supplyOfRich(time % 24);
+    }
+    Check.due("24: all of the supply", d.account(0) + d.account(1) - before[0] - before[1], supply);
     Check.due("24: all that flowed", d.account(0), d.account(2) + d.account(3));
     int usedOrLeaked = d.account(4) + d.account(5) - before[4] - before[5];
     Check.due("24: all that users got", more[3], usedOrLeaked + contents(d) - content);

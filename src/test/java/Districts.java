@@ -4,8 +4,8 @@ final class Districts {
   }
 
   /**
-   * Four ditches and five users, none with its first settings. User 3 is shut off, slot 0 and the text are in
-   * use, and slot 1 is empty.
+   * Four ditches and five users, none with its first settings. The users 0 and 3 are shut off, slot 0 and the
+   * text are in use, and slot 1 is empty.
    */
   static IrrigationDistrict rich() {
     IrrigationDistrict d = new IrrigationDistrict();
@@ -23,7 +23,9 @@ final class Districts {
       d.setPond(i, ponds[i][0], ponds[i][1]);
       d.setTurn(i, turns[i]);
     }
-    d.setSupply(3, 9, 60);
+    for (int hour = 0; hour < 24; hour++) {
+      d.setSupply(hour, hour + 1, supplyOfRich(hour));
+    }
     d.advance(2);
     d.save(0);
     d.setFutile(20);
@@ -32,6 +34,10 @@ final class Districts {
     d.settle();
     Check.write(d, "d0.50.5;t1.4;");
     return d;
+  }
+
+  static int supplyOfRich(int hour) {
+    return 70 + 7 * hour % 40;
   }
 
   /** Ten ditches, each but the first one behind the other, twelve users, and both slots in use. */

