@@ -23,6 +23,7 @@ final class DistributionSentencesTest {
     othersByAgeAfterTheTurn();
     allTurnsZero();
     proportionIsTruncated();
+    greatestOfAllNumbers();
     proportionByInflows();
     proportionOfTheFullDistrict();
     atLeastAsMuchAsItHas();
@@ -337,6 +338,38 @@ final class DistributionSentencesTest {
     gets("all", e, 33, 26);
     e.setSupply(0, 24, 0);
     gets("nothing", e, 0, 0);
+  }
+
+  /**
+   * "where k is the greatest number from 0 to 100": two users who ask for the same share all supplies. Each k from 2
+   * on is the least one with its amounts for some of them; below it, all shares of 60 units and less are nothing.
+   */
+  private static void greatestOfAllNumbers() {
+    boolean[] begins = new boolean[101];
+    for (int ask = 1; ask <= 60; ask++) {
+      IrrigationDistrict d = new IrrigationDistrict();
+      d.setDitch(0, 200, 0);
+      d.setRule(IN_PROPORTION);
+      addUser(d, 0, 1950, 60, ask);
+      addUser(d, 0, 1900, 60, ask);
+      for (int supply = 0; supply <= 2 * ask; supply++) {
+        d.setSupply(0, 1, supply);
+        int k = 100;
+        while (2 * (ask * k / 100) > supply) {
+          k--;
+        }
+        int share = ask * k / 100;
+        String what = "16: each asks for " + ask + " of " + supply;
+        Check.due(what + ", the younger one", d.gets(0), Math.max(share, supply - ask));
+        Check.due(what + ", the older one", d.gets(1), Math.min(ask, supply - share));
+      }
+      for (int k = 1; k <= 100; k++) {
+        if (ask * k / 100 > ask * (k - 1) / 100) begins[k] = true;
+      }
+    }
+    for (int k = 2; k <= 100; k++) {
+      Check.holds("16: there is a share that begins with " + k, begins[k]);
+    }
   }
 
   /** "with which these amounts are possible": by the inflows, not by what is passed on. */
