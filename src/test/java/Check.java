@@ -36,6 +36,30 @@ final class Check {
     }
   }
 
+  /** The checksum of promise 39, by what the other calls tell. */
+  static long toldChecksum(IrrigationDistrict d) {
+    int ditches = d.ditches();
+    int users = d.users();
+    long h = 53;
+    h = 31 * h + d.time();
+    h = 31 * h + ditches;
+    h = 31 * h + users;
+    for (int ditch = 0; ditch < ditches; ditch++) {
+      h = 31 * h + d.inflow(ditch);
+      h = 31 * h + d.loses(ditch);
+    }
+    for (int user = 0; user < users; user++) {
+      int[] values = {d.asks(user), d.gets(user), d.pond(user), d.missed(user), d.isShut(user)};
+      for (int value : values) {
+        h = 31 * h + value;
+      }
+    }
+    for (int what = 0; what < 7; what++) {
+      h = 31 * h + d.account(what);
+    }
+    return 31 * h + d.turn();
+  }
+
   /** That the calls leave no trace in a district that is made twice, once with them and once without. */
   static void changesNothing(String what, Supplier<IrrigationDistrict> maker, Consumer<IrrigationDistrict> calls) {
     IrrigationDistrict asked = maker.get();

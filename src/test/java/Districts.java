@@ -73,4 +73,24 @@ final class Districts {
     Check.write(d, "t1.9;".repeat(20));
     return d;
   }
+
+  /** Changes all that a district with at least two ditches has but its text and its slots. */
+  static void upset(IrrigationDistrict d) {
+    d.advance(11);
+    d.setDitch(0, 55, 5);
+    d.setDitch(1, 44, 4);
+    d.addDitch(1, 33, 3);
+    d.addUser(2, 1800, 22);
+    int users = d.users();
+    for (int user = 0; user < users; user++) {
+      d.setField(user, 11, 1, 23);
+      d.setPond(user, 111, 1);
+      d.setTurn(user, 1);
+    }
+    d.setSupply(0, 24, 77);
+    d.setRule(IrrigationDistrict.BY_TURNS);
+    d.setFutile(66);
+    d.advance(2);
+    d.settle();
+  }
 }

@@ -131,24 +131,6 @@ final class SlotSentencesTest {
     Check.due("38: both are", d.restore(1), 10);
   }
 
-  private static void upset(IrrigationDistrict d) {
-    d.advance(11);
-    d.setDitch(0, 55, 5);
-    d.setDitch(1, 44, 4);
-    d.addDitch(1, 33, 3);
-    d.addUser(2, 1800, 22);
-    for (int user = 0; user < 6; user++) {
-      d.setField(user, 11, 1, 23);
-      d.setPond(user, 111, 1);
-      d.setTurn(user, 1);
-    }
-    d.setSupply(0, 24, 77);
-    d.setRule(1);
-    d.setFutile(66);
-    d.advance(2);
-    d.settle();
-  }
-
   /** "The slot keeps it": what is changed after restoring is not changed in the slot. */
   private static void theSlotKeepsIt() {
     for (int slot = 0; slot < 2; slot++) {
@@ -159,7 +141,7 @@ final class SlotSentencesTest {
         return d;
       }, d -> {
         for (int round = 0; round < 2; round++) {
-          upset(d);
+          Districts.upset(d);
           Check.due("38: the time then", d.restore(kept), 5);
         }
       });
@@ -236,29 +218,9 @@ final class SlotSentencesTest {
   private static void checksumOfTheFullDistrict() {
     IrrigationDistrict d = Districts.full();
     for (int round = 0; round < 3; round++) {
-      Check.due("39: round " + round, d.checksum(), told(d));
+      Check.due("39: round " + round, d.checksum(), Check.toldChecksum(d));
       d.advance(9);
       d.setRule(round);
     }
-  }
-
-  private static long told(IrrigationDistrict d) {
-    long h = 53;
-    h = 31 * h + d.time();
-    h = 31 * h + 10;
-    h = 31 * h + 12;
-    for (int ditch = 0; ditch < 10; ditch++) {
-      h = 31 * h + d.inflow(ditch);
-      h = 31 * h + d.loses(ditch);
-    }
-    for (int user = 0; user < 12; user++) {
-      for (int value : new int[] {d.asks(user), d.gets(user), d.pond(user), d.missed(user), d.isShut(user)}) {
-        h = 31 * h + value;
-      }
-    }
-    for (int what = 0; what < 7; what++) {
-      h = 31 * h + d.account(what);
-    }
-    return 31 * h + d.turn();
   }
 }

@@ -72,29 +72,11 @@ final class SlotsTest {
     return d;
   }
 
-  /** Changes all that a district has. */
-  private static void upset(IrrigationDistrict d) {
-    d.advance(13);
-    d.setDitch(0, 50, 9);
-    d.setDitch(1, 22, 22);
-    d.addDitch(1, 33, 33);
-    d.addUser(2, 1800, 33);
-    for (int user = 0; user < 4; user++) {
-      d.setField(user, 33, 3, 13);
-      d.setPond(user, 33, 3);
-      d.setTurn(user, 3);
-    }
-    d.setSupply(0, 24, 33);
-    d.setRule(1);
-    d.setFutile(33);
-    d.settle();
-  }
-
   private static void restoreTakesAllBack() {
     for (int slot = 0; slot < 2; slot++) {
       final int kept = slot;
       Check.changesNothing("38: slot " + slot, () -> saved(kept), d -> {
-        upset(d);
+        Districts.upset(d);
         Check.due("38: time then", d.restore(kept), 4);
       });
     }
@@ -176,34 +158,12 @@ final class SlotsTest {
       IrrigationDistrict d = rich();
       if (day > 0) d.advance(16 * day);
       for (int hour = 0; hour < 9; hour++) {
-        Check.due("39: day " + day + ", hour " + hour, d.checksum(), told(d));
+        Check.due("39: day " + day + ", hour " + hour, d.checksum(), Check.toldChecksum(d));
         d.advance(1);
         d.setRule(hour % 3);
         if (hour % 4 == 0) d.settle();
       }
     }
-  }
-
-  /** The checksum by what the other calls tell. */
-  private static long told(IrrigationDistrict d) {
-    long h = 53;
-    h = 31 * h + d.time();
-    h = 31 * h + d.ditches();
-    h = 31 * h + d.users();
-    for (int ditch = 0; ditch < d.ditches(); ditch++) {
-      h = 31 * h + d.inflow(ditch);
-      h = 31 * h + d.loses(ditch);
-    }
-    for (int user = 0; user < d.users(); user++) {
-      int[] values = {d.asks(user), d.gets(user), d.pond(user), d.missed(user), d.isShut(user)};
-      for (int value : values) {
-        h = 31 * h + value;
-      }
-    }
-    for (int what = 0; what < 7; what++) {
-      h = 31 * h + d.account(what);
-    }
-    return 31 * h + d.turn();
   }
 
   private static void nothingChanges() {
